@@ -404,6 +404,20 @@ public final class PromisesTest {
         due(1, plan::plan);
         // Row 2 would leave the list at 0, but there it would stand above one that is landed earlier.
         due(210, () -> plan.where(6));
+        // Both places with power are above one that is landed earlier: the list decides.
+        StowagePlan both = new StowagePlan();
+        for (int bay = 2; bay < 4; bay++) {
+            for (int row = 0; row < 5; row++) {
+                both.setPlug(bay, row, bay == 2 && row == 0 || bay == 3 && row == 2);
+            }
+        }
+        both.addContainer(1, 0, 1, 0);
+        both.addContainer(1, 0, 1, 0);
+        both.load(0, 2, 0);
+        both.load(1, 3, 2);
+        both.addContainer(5, 0, 3, 1);
+        due(1, both::plan);
+        due(321, () -> both.where(2));
         StowagePlan same = new StowagePlan();
         same.addContainer(10, 0, 3, 0);
         same.addContainer(10, 0, 3, 0);
@@ -460,6 +474,11 @@ public final class PromisesTest {
         due(1, () -> plan.container(4, 4));
         due(2, () -> plan.count(true));
         due(0, plan::plan);
+        StowagePlan whole = new StowagePlan();
+        for (int i = 0; i < 40; i++) {
+            whole.addContainer(1, 0, 1, 0);
+        }
+        due(40, whole::plan);
     }
 
     private static StowagePlan loadedStack(int... ports) {
