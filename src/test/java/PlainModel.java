@@ -38,6 +38,10 @@ final class PlainModel {
         }
     }
 
+    int port() {
+        return port;
+    }
+
     String call(String name, int a, int b, int c, int d) {
         switch (name) {
             case "addContainer": return addContainer(a, b, c, d);

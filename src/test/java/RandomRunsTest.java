@@ -4,9 +4,12 @@ import java.util.Map;
 import java.util.Random;
 import java.util.TreeMap;
 
-/** Runs of 512 chosen calls on the class and on PlainModel, whose answers must be the same. */
+/**
+ * Runs of 512 chosen calls on the class and on PlainModel, whose answers must be the same. In some
+ * runs each other call is digest(), in some it is rare; the last one is digest() always.
+ */
 public final class RandomRunsTest {
-    private static final int RUNS = 400;
+    private static final int RUNS = 600;
     private static final int CALLS = 512;
     private static final int SHOWN = 12;
     private static final int[] WILD = {Integer.MIN_VALUE, -1, 0, 1, 4, 5, 6, 39, 40, 41, Integer.MAX_VALUE};
@@ -28,12 +31,14 @@ public final class RandomRunsTest {
     private final int planOneIn;
     private final int sailOneIn;
     private final int narrow;
+    private final int digestOneIn;
 
     private RandomRunsTest(long seed) {
         random = new Random(seed);
         planOneIn = 1 + random.nextInt(12);
         sailOneIn = 1 + random.nextInt(8);
         narrow = 1 + random.nextInt(6);
+        digestOneIn = 1 + random.nextInt(6);
     }
 
     private static String real(StowagePlan plan, String name, int a, int b, int c, int d) {
@@ -78,7 +83,10 @@ public final class RandomRunsTest {
         return random.nextInt(60) == 0 ? WILD[random.nextInt(WILD.length)] : random.nextInt(bound);
     }
 
-    private String nextCall() {
+    private String nextCall(int number) {
+        if (number == CALLS || random.nextInt(digestOneIn) == 0) {
+            return "digest";
+        }
         String name = CALLS_MADE[random.nextInt(CALLS_MADE.length)];
         if (name.equals("plan") && random.nextInt(planOneIn) != 0
                 || name.equals("sail") && random.nextInt(sailOneIn) != 0) {
@@ -90,7 +98,7 @@ public final class RandomRunsTest {
     private int[] arguments(String name) {
         switch (name) {
             case "addContainer":
-                int from = random.nextBoolean() ? plan.port() : below(5);
+                int from = random.nextBoolean() ? model.port() : below(5);
                 return new int[] {1 + below(random.nextBoolean() ? 30 : 8), from,
                     from < 5 && from >= 0 ? from + 1 + below(5 - from) : below(6), below(5)};
             case "container":
@@ -116,8 +124,8 @@ public final class RandomRunsTest {
     /** Whether all answers of this run are the same; shows the last calls where one is not. */
     private boolean holds(long seed) {
         Deque<String> last = new ArrayDeque<>();
-        for (int i = 0; i < CALLS; i++) {
-            String name = nextCall();
+        for (int i = 1; i <= CALLS; i++) {
+            String name = nextCall(i);
             int[] x = arguments(name);
             String want = model.call(name, x[0], x[1], x[2], x[3]);
             String got = real(plan, name, x[0], x[1], x[2], x[3]);
@@ -126,9 +134,8 @@ public final class RandomRunsTest {
             if (last.size() > SHOWN) {
                 last.remove();
             }
-            String digest = model.call("digest", 0, 0, 0, 0);
-            if (!want.equals(got) || !digest.equals("" + plan.digest())) {
-                System.out.println("seed " + seed + ", call " + i + ": due is " + want + ", digest " + digest);
+            if (!want.equals(got)) {
+                System.out.println("seed " + seed + ", call " + i + ": due is " + want);
                 last.forEach(System.out::println);
                 return false;
             }
