@@ -8,6 +8,12 @@ final class Checks {
     static final String STATE = "throws.IllegalStateException";
     static final int LEAST = Integer.MIN_VALUE;
     static final int MOST = Integer.MAX_VALUE;
+    /** Times 5 this wraps around to 1, so a place reckoned from such a bay would lie on the ship. */
+    static final int WRAPS_BY_ROWS = -858993459;
+    /** Times 4, or times 20, this wraps around to 0, as WRAPS_BY_ROWS does times 5. */
+    static final int WRAPS_BY_TIERS = 1 << 30;
+    static final int[] NO_BAYS = {LEAST, WRAPS_BY_ROWS, -1, 6, 7, WRAPS_BY_TIERS, MOST};
+    static final int[] NO_ROWS = {LEAST, WRAPS_BY_ROWS, -1, 5, 6, WRAPS_BY_TIERS, MOST};
 
     /** A call whose answer is looked at. */
     interface Call {

@@ -269,11 +269,11 @@ public final class ContainersEdgesTest {
     }
 
     private static void noSuchStack() {
-        for (int bay : Checks.numbers(Checks.LEAST, -1, 6, 7, Checks.MOST)) {
+        for (int bay : Checks.NO_BAYS) {
             Checks.refused(Checks.INDEX, ContainersEdgesTest::one, plan -> plan.setPlug(bay, 0, true));
             Checks.refused(Checks.INDEX, ContainersEdgesTest::one, plan -> plan.setPlug(bay, 4, false));
         }
-        for (int row : Checks.numbers(Checks.LEAST, -1, 5, 6, Checks.MOST)) {
+        for (int row : Checks.NO_ROWS) {
             Checks.refused(Checks.INDEX, ContainersEdgesTest::one, plan -> plan.setPlug(0, row, true));
             Checks.refused(Checks.INDEX, ContainersEdgesTest::one, plan -> plan.setPlug(3, row, false));
         }

@@ -24,7 +24,7 @@ public final class LoadingEdgesTest {
     private static void canLoadNoSuchBay() {
         Checks.due(true, () -> one().canLoad(0, 0, 2));
         Checks.due(true, () -> one().canLoad(0, 5, 2));
-        for (int bay : Checks.numbers(Checks.LEAST, -1, 6, Checks.MOST)) {
+        for (int bay : Checks.NO_BAYS) {
             Checks.refused(Checks.INDEX, LoadingEdgesTest::one, plan -> plan.canLoad(0, bay, 2));
         }
     }
@@ -32,7 +32,7 @@ public final class LoadingEdgesTest {
     private static void canLoadNoSuchRow() {
         Checks.due(true, () -> one().canLoad(0, 2, 0));
         Checks.due(true, () -> one().canLoad(0, 2, 4));
-        for (int row : Checks.numbers(Checks.LEAST, -1, 5, Checks.MOST)) {
+        for (int row : Checks.NO_ROWS) {
             Checks.refused(Checks.INDEX, LoadingEdgesTest::one, plan -> plan.canLoad(0, 2, row));
         }
     }
@@ -70,7 +70,7 @@ public final class LoadingEdgesTest {
     }
 
     private static void loadNoSuchBay() {
-        for (int bay : Checks.numbers(Checks.LEAST, -1, 6, Checks.MOST)) {
+        for (int bay : Checks.NO_BAYS) {
             Checks.refused(Checks.INDEX, LoadingEdgesTest::one, plan -> plan.load(0, bay, 2));
         }
         Checks.due(0, () -> one().load(0, 0, 2));
@@ -78,7 +78,7 @@ public final class LoadingEdgesTest {
     }
 
     private static void loadNoSuchRow() {
-        for (int row : Checks.numbers(Checks.LEAST, -1, 5, Checks.MOST)) {
+        for (int row : Checks.NO_ROWS) {
             Checks.refused(Checks.INDEX, LoadingEdgesTest::one, plan -> plan.load(0, 2, row));
         }
         Checks.due(0, () -> one().load(0, 2, 0));
@@ -127,10 +127,10 @@ public final class LoadingEdgesTest {
     // ---- promise 8: lift
 
     private static void liftNoSuchStack() {
-        for (int bay : Checks.numbers(Checks.LEAST, -1, 6, Checks.MOST)) {
+        for (int bay : Checks.NO_BAYS) {
             Checks.refused(Checks.INDEX, () -> Checks.stackTo(5), plan -> plan.lift(bay, 2));
         }
-        for (int row : Checks.numbers(Checks.LEAST, -1, 5, Checks.MOST)) {
+        for (int row : Checks.NO_ROWS) {
             Checks.refused(Checks.INDEX, () -> Checks.stackTo(5), plan -> plan.lift(2, row));
         }
         for (int stack = 0; stack < 30; stack++) {

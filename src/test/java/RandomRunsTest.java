@@ -12,7 +12,8 @@ public final class RandomRunsTest {
     private static final int RUNS = 600;
     private static final int CALLS = 512;
     private static final int SHOWN = 12;
-    private static final int[] WILD = {Integer.MIN_VALUE, -1, 0, 1, 4, 5, 6, 39, 40, 41, Integer.MAX_VALUE};
+    private static final int[] WILD = {Checks.LEAST, Checks.WRAPS_BY_ROWS, -1, 0, 1, 4, 5, 6, 39, 40, 41,
+        Checks.WRAPS_BY_TIERS, Checks.MOST};
 
     /** Often called ones stand more than once. */
     private static final String[] CALLS_MADE = {

@@ -1,8 +1,5 @@
 /** The edges that the promises 12 to 24 name (what is told), a test for each sentence. */
 public final class ToldEdgesTest {
-    private static final int[] NO_BAYS = {Checks.LEAST, -1, 6, 7, Checks.MOST};
-    private static final int[] NO_ROWS = {Checks.LEAST, -1, 5, 6, Checks.MOST};
-
     private static StowagePlan one() {
         return Checks.waiting(1, 7, 5);
     }
@@ -32,10 +29,10 @@ public final class ToldEdgesTest {
     // ---- promise 12: at
 
     private static void atNoSuchPlace() {
-        for (int bay : NO_BAYS) {
+        for (int bay : Checks.NO_BAYS) {
             Checks.refused(Checks.INDEX, ToldEdgesTest::one, plan -> plan.at(bay, 0, 0));
         }
-        for (int row : NO_ROWS) {
+        for (int row : Checks.NO_ROWS) {
             Checks.refused(Checks.INDEX, ToldEdgesTest::one, plan -> plan.at(0, row, 0));
             Checks.refused(Checks.INDEX, ToldEdgesTest::one, plan -> plan.at(3, row, 0));
         }
@@ -275,7 +272,7 @@ public final class ToldEdgesTest {
     // ---- promise 18: weight
 
     private static void weightOfNoSuchBay() {
-        for (int bay : NO_BAYS) {
+        for (int bay : Checks.NO_BAYS) {
             Checks.refused(Checks.INDEX, ToldEdgesTest::one, plan -> plan.weight(bay));
         }
     }
